@@ -1144,7 +1144,9 @@ public final class Hintworks {
             }
             countUnseen(player, player);
             for (int kind = 0; kind < unseen.length; kind++) {
-                spread(placesFor(player, kind), unseen[kind]);
+                if (unseen[kind] > 0) {
+                    spread(placesFor(player, kind), unseen[kind]);
+                }
             }
             int all = (1 << hands.sizeOf(player)) - 1;
             return all >= 0 && all < ways.length ? ways[all] : 0;

@@ -93,6 +93,8 @@ public final class HatsTest {
         check.due("one that lets the second play", behind.best(2), 2);
         Hintworks other = Laid.game("nn", Laid.hands(Laid.hand(4, 11, 3, 13, 1), Laid.hand(3, 13, 15, 5, 12)));
         check.due("the other one that lets the second play", other.best(2), 2);
+        Hintworks newest = Laid.game("nn", Laid.hands(Laid.hand(1, 11, 3, 13, 4), Laid.hand(2, 13, 15, 5, 14)));
+        check.due("the newest one lets the second play", newest.best(2), 2);
         Hintworks down = Laid.game("rn", Laid.hands(Laid.hand(1, 12, 13, 14, 5), Laid.hand(2, 4, 15, 13, 12)));
         check.due("a reversed suit", down.best(2), 2);
         Hintworks none = Laid.game("nn", Laid.hands(Laid.hand(4, 12, 3, 13, 3), Laid.hand(2, 5, 15, 14, 12)));

@@ -131,6 +131,13 @@ public final class KnowledgeTest {
         x.hintRank(1, 2);
         check.due("twos then", x.isPlayable(1, 1), true);
         check.due("not useless", x.isUseless(1, 1), false);
+        Hintworks y = Laid.game("nn", TWO);
+        y.hintSuit(1, 0);
+        y.hintRank(0, 4);
+        y.hintRank(1, 1);
+        check.due("the first kind", y.kinds(1, 1), 1);
+        check.due("the first kind, known to be played", y.isPlayable(1, 1), true);
+        check.due("the first kind, not useless", y.isUseless(1, 1), false);
     }
 
     private static void isUseless() {
@@ -219,6 +226,11 @@ public final class KnowledgeTest {
         check.due("pace behind a play", y.pace(), 1 + 2 + 2 - 7);
         y.play(1);
         check.due("score", y.score(), 2);
+        Hintworks dark = Laid.game("dn", Laid.hands(Laid.hand(1, 11, 13, 15, 5), Laid.hand(14, 4, 3, 11, 13)), 2);
+        dark.hintRank(1, 4);
+        dark.hintRank(0, 5);
+        dark.discard(0);
+        check.due("the first of a dark suit lost", dark.most(), 5);
         check.due("most stays", y.most(), 7);
     }
 

@@ -61,6 +61,9 @@ public final class PromisesTest {
         y.hintRank(0, 3);
         y.hintSuit(1, 1);
         check.due("the chop ahead of newer ones", y.focus(2), 11);
+        y.hintRank(0, 3);
+        y.hintRank(1, 1);
+        check.due("the oldest one, touched before", y.focus(4), 11);
     }
 
     private static void meaning() {
@@ -331,6 +334,34 @@ public final class PromisesTest {
         Hintworks giver = Laid.game("nn", Laid.hands(Laid.hand(1, 13, 13, 4, 4), Laid.hand(11, 12, 12, 11, 2)));
         giver.hintRank(1, 2);
         check.element(giver, "not from the giver", () -> giver.finesses(0));
+        connectsByOldestCards();
+    }
+
+    // The first card of the deck is the oldest one of the first player.
+    private static void connectsByOldestCards() {
+        Hintworks giver = Laid.game("nnn", Laid.hands(Laid.hand(13, 13, 4, 4, 1), Laid.hand(22, 12, 12, 2, 2)));
+        giver.hintRank(1, 2);
+        check.element(giver, "not from the giver, all others touched", () -> giver.finesses(0));
+        int[][] hands = Laid.hands(Laid.hand(2, 13, 14, 12, 1), Laid.hand(11, 4, 13, 14, 3));
+        Hintworks hidden = Laid.game("nn", hands);
+        hidden.hintRank(1, 4);
+        hidden.hintSuit(0, 1);
+        hidden.hintRank(1, 4);
+        hidden.hintRank(0, 2);
+        check.due("the focus", hidden.focus(3), 2);
+        check.due("the oldest one by a finesse", hidden.finesses(3), 1);
+        Hintworks touched = Laid.game("nn", hands);
+        touched.hintRank(1, 4);
+        touched.hintRank(0, 1);
+        touched.hintRank(1, 4);
+        touched.hintSuit(0, 0);
+        check.due("the focus then", touched.focus(3), 2);
+        check.due("the oldest one by a prompt", touched.finesses(3), 0);
+        Hintworks behind = Laid.game("nn", Laid.hands(Laid.hand(1, 11, 11, 14, 14), Laid.hand(13, 13, 4, 4, 12),
+                Laid.hand(11, 12, 15, 3, 2)));
+        behind.hintRank(1, 3);
+        behind.hintRank(2, 2);
+        check.due("from the first player, behind the last one", behind.finesses(1), 1);
     }
 
     private static void connectsOtherSuits() {
@@ -378,6 +409,13 @@ public final class PromisesTest {
         check.due("of the other none", x.faults(1), 0);
         x.play(0);
         check.due("a strike", x.faults(1), 1);
+        Hintworks y = Laid.game("nn", TWO);
+        y.hintRank(1, 2);
+        y.hintRank(0, 4);
+        check.due("a hint of the newest card alone", y.faults(1), 0);
+        y.hintRank(1, 5);
+        y.hintRank(0, 4);
+        check.due("the newest card again", y.faults(1), 1);
         x.play(4);
         check.due("a play that fits", x.faults(0), 2);
         check.due("faults at last", x.faults(1), 1);
@@ -431,6 +469,28 @@ public final class PromisesTest {
         check.due("known to be useless", y.advice(), 22);
         y.hintRank(1, 1);
         check.due("known to be useless, moved on", y.advice(), 23);
+        Hintworks z = Laid.game("nn", Laid.hands(Laid.hand(1, 11, 3, 14, 13), Laid.hand(1, 4, 3, 11, 13)), 14, 5);
+        z.play(0);
+        z.play(3);
+        z.hintRank(1, 1);
+        z.discard(1);
+        z.hintRank(1, 3);
+        check.due("chop behind useless ones", z.advice(), 22);
+        oneClue();
+    }
+
+    private static void oneClue() {
+        Hintworks x = Laid.game("nn", TWO, 13);
+        for (int round = 0; round < 3; round++) {
+            x.hintRank(1, 2);
+            x.hintRank(0, 4);
+        }
+        x.hintRank(1, 2);
+        check.due("with one clue", x.advice(), 100);
+        x.hintRank(0, 4);
+        check.due("without a clue", x.advice(), 24);
+        x.discard(3);
+        check.due("clues", x.clues(), 1);
     }
 
     private static void adviceWithAllClues() {
@@ -442,6 +502,10 @@ public final class PromisesTest {
         z.hintRank(1, 1);
         z.hintRank(0, 3);
         check.due("a next one touched already", z.advice(), 23);
+        Hintworks fives = Laid.game("uuuuu", Laid.hands(Laid.hand(3, 4, 3, 14, 13), Laid.hand(5, 15, 25, 35, 45)));
+        check.due("the last rank", fives.advice(), 215);
+        Hintworks newest = Laid.game("nn", Laid.hands(Laid.hand(3, 4, 5, 14, 13), Laid.hand(11, 4, 3, 12, 13)));
+        check.due("a next one that is the newest", newest.advice(), 201);
     }
 
     private static void adviceByKinds() {
