@@ -1,22 +1,32 @@
+import java.util.NoSuchElementException;
+import java.util.function.Function;
+import java.util.function.Supplier;
+
 /** Counts the answers that are not as due, and ends the test by them. */
 final class Check {
     interface Call {
         Object answer() throws Exception;
     }
 
-    private static final Class<?> STATE = IllegalStateException.class;
-    private static final Class<?> RANGE = IndexOutOfBoundsException.class;
-    private static final Class<?> ARGUMENT = IllegalArgumentException.class;
-    private static final Class<?> UNSUPPORTED = UnsupportedOperationException.class;
-    private static final Class<?> ELEMENT = java.util.NoSuchElementException.class;
-    private static final Class<?> ARITHMETIC = ArithmeticException.class;
+    static final Class<?> STATE = IllegalStateException.class;
+    static final Class<?> RANGE = IndexOutOfBoundsException.class;
+    static final Class<?> ARGUMENT = IllegalArgumentException.class;
+    static final Class<?> UNSUPPORTED = UnsupportedOperationException.class;
+    static final Class<?> ELEMENT = NoSuchElementException.class;
+    static final Class<?> ARITHMETIC = ArithmeticException.class;
 
     private int wrong;
+    private String subject = "";
+
+    /** What the answers from now on are about. */
+    void about(String text) {
+        subject = text;
+    }
 
     void due(String what, Object got, Object want) {
         if (!String.valueOf(got).equals(String.valueOf(want))) {
             wrong++;
-            System.out.println(what + " answered " + got + ", due is " + want);
+            System.out.println(subject + what + " answered " + got + ", due is " + want);
         }
     }
 
@@ -49,6 +59,22 @@ final class Check {
         String before = Snapshot.of(x);
         due(what, outcome(call), "throws " + kind.getName());
         due(what + ", then all else", Snapshot.of(x), before);
+    }
+
+    /**
+     * A call on a new object is refused, and this one goes on as its twin does that was not called so: what a
+     * call may change and nothing shows at once, such as the cards of the deck, shows in the course of the game.
+     */
+    void refused(Class<?> kind, Supplier<Hintworks> made, String what, Function<Hintworks, Object> call) {
+        Hintworks x = made.get();
+        due(what, outcome(() -> call.apply(x)), "throws " + kind.getName());
+        due(what + ", then the course of the game", Snapshot.courseOf(x), Snapshot.courseOf(made.get()));
+    }
+
+    /** A call on a new object is taken. */
+    void taken(Supplier<Hintworks> made, String what, Function<Hintworks, Object> call) {
+        Hintworks x = made.get();
+        due(what + " is taken", outcome(() -> call.apply(x)).startsWith("throws"), false);
     }
 
     static String outcome(Call call) {

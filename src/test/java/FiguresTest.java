@@ -71,29 +71,20 @@ public final class FiguresTest {
         Hintworks x = new Hintworks();
         check.due("not started", x.isSound(), true);
         for (int seed = 0; seed < 300; seed++) {
-            x.game(2 + seed % 3, 2 + seed % 4, seed * 211);
-            x.setSuit(0, "ndrwu".charAt(seed % 5), seed);
-            x.setSuit(1, "ndrwu".charAt(seed / 5 % 5), seed * 7);
-            if (x.deck() >= 16) {
-                x.start();
-                playOn(x);
+            Hintworks y = new Hintworks();
+            y.game(2 + seed % 3, 2 + seed % 4, seed * 211);
+            y.setSuit(0, "ndrwu".charAt(seed % 5), seed);
+            y.setSuit(1, "ndrwu".charAt(seed / 5 % 5), seed * 7);
+            if (y.deck() >= 16) {
+                y.start();
+                playOn(y);
             }
         }
     }
 
     private static void playOn(Hintworks x) {
         for (int turn = 0; turn < 100 && !x.isOver(); turn++) {
-            int advice = x.advice();
-            int told = advice % 100;
-            if (advice < 20) {
-                x.play(advice - 10);
-            } else if (advice < 100) {
-                x.discard(advice - 20);
-            } else if (told < 10) {
-                x.hintSuit(advice / 100 - 1, told);
-            } else {
-                x.hintRank(advice / 100 - 1, told - 10);
-            }
+            Laid.follow(x, x.advice());
             check.due("sound", x.isSound(), true);
         }
         check.due("advice leads to an end", x.isOver(), true);

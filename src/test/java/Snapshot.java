@@ -16,6 +16,23 @@ final class Snapshot {
         return shot.text.toString();
     }
 
+    /**
+     * All that an object answers now, and what comes of its game from now on as its players go by advice. With
+     * what a test may have called ahead these stay below the 512 calls that the document promises.
+     */
+    static String courseOf(Hintworks x) {
+        StringBuilder course = new StringBuilder(of(x));
+        course.append("start=").append(Check.outcome(x::start)).append('\n');
+        String advice = Check.outcome(x::advice);
+        for (int turn = 0; turn < 24 && !advice.startsWith("throws"); turn++) {
+            Laid.follow(x, Integer.parseInt(advice));
+            course.append(advice).append(' ').append(x.checksum()).append(' ').append(x.clues()).append('\n');
+            advice = Check.outcome(x::advice);
+        }
+        course.append(advice).append(' ').append(x.score()).append(' ').append(x.strikes()).append(' ');
+        return course.append(x.hints()).append(' ').append(x.deck()).toString();
+    }
+
     private void add(String name, Check.Call call) {
         text.append(name).append('=').append(Check.outcome(call)).append('\n');
     }

@@ -1,0 +1,127 @@
+import java.io.IOException;
+import java.nio.file.Files;
+import java.nio.file.Path;
+import java.util.LinkedHashMap;
+import java.util.Map;
+import java.util.function.BiFunction;
+import java.util.function.Supplier;
+
+/**
+ * Tests by the sentences of the document: each is named by the words that it holds the class to, these have to
+ * stand in the document, and at the end no word of the parts that were gone through may be left without a test.
+ */
+final class Said {
+    private static final String TERMS = "## Terms";
+
+    private final String document;
+    private final Check check = new Check();
+    private final Map<String, boolean[]> told = new LinkedHashMap<>();
+    private String part = "";
+    private String text = "";
+
+    Said() throws IOException {
+        document = Files.readString(Path.of("../shared/DOC.md"));
+    }
+
+    Check check() {
+        return check;
+    }
+
+    /** Goes on to a part of the document: a paragraph of its terms by the first word, or a promise by its heading. */
+    void part(String name) {
+        part = name;
+        text = name.startsWith("Promise ") ? promise(name) : paragraph(name);
+        check.due("the document has the part " + name, text.isEmpty(), false);
+        told.put(name, new boolean[text.length()]);
+    }
+
+    private String promise(String name) {
+        String[] lines = section("## " + name + "\n").split("\n");
+        StringBuilder rest = new StringBuilder();
+        for (String line : lines) {
+            // The line of the signature is what FaceTest looks at.
+            boolean isSignature = line.startsWith("`") && line.contains(name.substring(name.indexOf(':') + 2) + "(");
+            rest.append(isSignature ? line.replaceFirst("^`[^`]*`:?", "") : line).append('\n');
+        }
+        return spaced(rest.toString());
+    }
+
+    private String paragraph(String name) {
+        for (String one : section(TERMS + "\n").strip().split("\n\n")) {
+            if (one.startsWith(name + ". ")) {
+                return spaced(one.substring(name.length() + 2));
+            }
+            if (one.startsWith(name + " ")) {
+                return spaced(one);
+            }
+        }
+        return "";
+    }
+
+    private String section(String heading) {
+        int start = document.indexOf(heading);
+        if (start < 0) {
+            return "";
+        }
+        int behind = start + heading.length();
+        int end = document.indexOf("\n## ", behind);
+        return document.substring(behind, end < 0 ? document.length() : end);
+    }
+
+    private static String spaced(String words) {
+        return words.replaceAll("\\s+", " ").trim();
+    }
+
+    /** Runs the test of some words of the part. */
+    void test(String words, Runnable test) {
+        check.about("");
+        check.due(part + " says " + words, text.contains(words), true);
+        boolean[] marks = told.get(part);
+        for (int at = text.indexOf(words); at >= 0; at = text.indexOf(words, at + 1)) {
+            java.util.Arrays.fill(marks, at, at + words.length(), true);
+        }
+        check.about(part + " \"" + words + "\": ");
+        try {
+            test.run();
+        } catch (RuntimeException thrown) {
+            check.due("the test", thrown, "an end");
+        }
+        check.about("");
+    }
+
+    /** Tests that of a call's numbers the first and the last one are taken, and those beside them and far off not. */
+    void numbers(String words, Supplier<Hintworks> made, int first, int last, Class<?> refusal,
+            BiFunction<Hintworks, Integer, Object> call) {
+        test(words, () -> {
+            for (int number : new int[] {first, last}) {
+                check.taken(made, String.valueOf(number), x -> call.apply(x, number));
+            }
+            for (int number : new int[] {first - 1, last + 1, Integer.MIN_VALUE, Integer.MAX_VALUE}) {
+                check.refused(refusal, made, String.valueOf(number), x -> call.apply(x, number));
+            }
+        });
+    }
+
+    void end() {
+        for (Map.Entry<String, boolean[]> one : told.entrySet()) {
+            part = one.getKey();
+            String words = part.startsWith("Promise ") ? promise(part) : paragraph(part);
+            check.due("words of " + part + " without a test", without(words, one.getValue()), "");
+        }
+        check.end();
+    }
+
+    private static String without(String words, boolean[] marks) {
+        StringBuilder left = new StringBuilder();
+        boolean gap = false;
+        for (int at = 0; at < words.length(); at++) {
+            if (!marks[at] && Character.isLetterOrDigit(words.charAt(at))) {
+                left.append(gap && left.length() > 0 ? " " : "").append(words.charAt(at));
+                gap = false;
+            } else {
+                gap = true;
+            }
+        }
+        return left.toString();
+    }
+}
