@@ -1,4 +1,3 @@
-import java.util.ArrayList;
 import java.util.Collections;
 import java.util.List;
 
@@ -121,27 +120,14 @@ public final class EdgesOfCardsTest {
         }
     }
 
-    // As a card is laid to one place behind the other, its copies come one by one, until there is no more.
-    private static int copies(Hintworks x, int card) {
-        int number = 0;
-        while (number < 50 && !Check.outcome(laying(x, number, card)).startsWith("throws")) {
-            number++;
-        }
-        return number;
-    }
-
-    private static Check.Call laying(Hintworks x, int place, int card) {
-        return () -> x.lay(place, card);
-    }
-
     private void copiesAre(char kind, int... copies) {
         for (int suit : new int[] {0, 4}) {
             Hintworks x = game(2, 5);
             x.setSuit(suit, kind, 0);
             for (int rank = 1; rank <= 5; rank++) {
-                check.due("copies of " + (10 * suit + rank), copies(x, 10 * suit + rank), copies[rank - 1]);
+                check.due("copies of " + (10 * suit + rank), Decks.copies(x, 10 * suit + rank), copies[rank - 1]);
             }
-            check.due("copies of another suit", copies(x, 21), 3);
+            check.due("copies of another suit", Decks.copies(x, 21), 3);
         }
     }
 
@@ -211,9 +197,9 @@ public final class EdgesOfCardsTest {
         x.game(2, 5, 0);
         check.due("all cards", x.deck(), 50);
         for (int suit = 0; suit < 5; suit++) {
-            check.due("copies of 5", copies(x, 10 * suit + 5), 1);
+            check.due("copies of 5", Decks.copies(x, 10 * suit + 5), 1);
         }
-        check.due("of the first object", copies(new Hintworks(), 1), 3);
+        check.due("of the first object", Decks.copies(new Hintworks(), 1), 3);
         Hintworks hinted = Laid.deck(2, "wu");
         hinted.game(2, 2, 0);
         for (int place = 0; place < 5; place++) {
@@ -248,74 +234,44 @@ public final class EdgesOfCardsTest {
                 + "that is as told.", this::laidAsWanted);
     }
 
-    private static List<Integer> sorted(String kinds) {
-        List<Integer> cards = new ArrayList<>();
-        for (int suit = 0; suit < kinds.length(); suit++) {
-            for (int rank = 1; rank <= 5; rank++) {
-                int copies = (kinds.charAt(suit) == 'r' ? "12223" : "32221").charAt(rank - 1) - '0';
-                int number = kinds.charAt(suit) == 'd' ? 1 : copies;
-                cards.addAll(Collections.nCopies(number, 10 * suit + rank));
-            }
-        }
-        return cards;
-    }
-
-    private static List<Integer> shuffled(String kinds, int seed) {
-        List<Integer> cards = sorted(kinds);
-        long number = seed;
-        for (int place = cards.size() - 1; place >= 1; place--) {
-            number = Math.floorMod(number * 1103 + 12345, 65536L);
-            Collections.swap(cards, place, (int) (number % (place + 1)));
-        }
-        return cards;
-    }
-
-    /** The deck of a game: who lays a card that is there already learns what is there. */
-    private void deckIs(String what, Hintworks x, List<Integer> cards) {
-        check.due(what + ", number", x.deck(), cards.size());
-        for (int place = 0; place < cards.size(); place++) {
-            String found = Check.outcome(laying(x, place, cards.get(place)));
-            check.due(what + ", place " + place, found, cards.get(place));
-        }
-    }
-
     private void allCards() {
         for (String kinds : List.of("n", "d", "r", "w", "u", "ndrwu", "ddddd", "nnnnn", "rn")) {
             Hintworks x = Laid.deck(2, kinds);
             for (int suit = 0; suit < kinds.length(); suit++) {
                 for (int rank = 1; rank <= 5; rank++) {
                     int card = 10 * suit + rank;
-                    check.due(kinds + " " + card, copies(x, card), Collections.frequency(sorted(kinds), card));
+                    int copies = Collections.frequency(Decks.sorted(kinds), card);
+                    check.due(kinds + " " + card, Decks.copies(x, card), copies);
                 }
             }
         }
     }
 
     private void shuffledBySeed() {
-        deckIs("as worked out by hand", new Hintworks(), List.of(4, 2, 1, 3, 2, 5, 4, 1, 1, 3));
+        Decks.due(check, "as worked out by hand", new Hintworks(), List.of(4, 2, 1, 3, 2, 5, 4, 1, 1, 3));
         for (int seed : new int[] {0, 1, 59, 32767, 32768, 65534, 65535}) {
             for (int suits = 1; suits <= 5; suits++) {
                 Hintworks x = new Hintworks();
                 x.game(4, suits, seed);
-                deckIs(suits + " suits by " + seed, x, shuffled("n".repeat(suits), seed));
+                Decks.due(check, suits + " suits by " + seed, x, Decks.shuffled("n".repeat(suits), seed));
             }
             Hintworks y = game(2, 5);
             for (int suit = 0; suit < 5; suit++) {
                 y.setSuit(suit, KINDS.charAt(suit), suit == 4 ? seed : 7);
             }
-            deckIs("all kinds by " + seed, y, shuffled(KINDS, seed));
+            Decks.due(check, "all kinds by " + seed, y, Decks.shuffled(KINDS, seed));
         }
     }
 
     private void laidAsWanted() {
         Hintworks x = new Hintworks();
         check.due("the first place", x.lay(0, 3), 4);
-        deckIs("with the first one as told", x, List.of(3, 2, 1, 4, 2, 5, 4, 1, 1, 3));
+        Decks.due(check, "with the first one as told", x, List.of(3, 2, 1, 4, 2, 5, 4, 1, 1, 3));
         check.due("from the place on, not ahead of it", x.lay(3, 1), 4);
-        deckIs("then", x, List.of(3, 2, 1, 1, 2, 5, 4, 4, 1, 3));
+        Decks.due(check, "then", x, List.of(3, 2, 1, 1, 2, 5, 4, 4, 1, 3));
         check.due("the place itself", x.lay(8, 1), 1);
         check.due("the last place", x.lay(9, 3), 3);
-        deckIs("as it was", x, List.of(3, 2, 1, 1, 2, 5, 4, 4, 1, 3));
+        Decks.due(check, "as it was", x, List.of(3, 2, 1, 1, 2, 5, 4, 4, 1, 3));
         check.refused(Check.ELEMENT, Hintworks::new, "the last place, no such card", y -> y.lay(9, 1));
         check.refused(Check.ELEMENT, Hintworks::new, "one behind the only copy", y -> y.lay(6, 5));
         check.due("at the only copy", new Hintworks().lay(5, 5), 5);
@@ -334,7 +290,7 @@ public final class EdgesOfCardsTest {
     private void roundAndRound() {
         for (int players = 2; players <= 4; players++) {
             Hintworks x = game(players, 5);
-            List<Integer> cards = shuffled("nnnnn", 0);
+            List<Integer> cards = Decks.shuffled("nnnnn", 0);
             x.start();
             int each = x.hand(0);
             for (int number = 0; number < each * players; number++) {

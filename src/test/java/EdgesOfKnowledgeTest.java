@@ -45,7 +45,8 @@ public final class EdgesOfKnowledgeTest {
         Hintworks none = Laid.acted(Laid.game("nu", TWO), "s10");
         check.due("by a hint that does not touch u", none.kinds(1, 0) + " " + none.canBe(1, 0, 15), "5 false");
         Hintworks rank = Laid.acted(Laid.game("wu", TWO), "r15");
-        check.due("by a rank", rank.kinds(1, 2) + " " + rank.canBe(1, 2, 5) + " " + rank.canBe(1, 2, 15), "2 true true");
+        check.due("by a rank", rank.kinds(1, 2), 2);
+        check.due("by a rank, of either suit", rank.canBe(1, 2, 5) && rank.canBe(1, 2, 15), true);
     }
 
     private void sinceDrawn() {
@@ -272,8 +273,8 @@ public final class EdgesOfKnowledgeTest {
     private void focusTouchedAgain() {
         check.due("all touched ahead", focusOf(Laid.hand(12, 11, 15, 5, 3), "s11 r01 s11"), 12);
         check.due("one of them", focusOf(Laid.hand(12, 11, 15, 5, 3), "s11 r01 r11"), 11);
-        check.due("a hand with no card that no hint touched", focusOf(Laid.hand(12, 11, 15, 5, 3), "s11 r01 s10 r01 r15"),
-                15);
+        String all = "s11 r01 s10 r01 ";
+        check.due("a hand with no card that no hint touched", focusOf(Laid.hand(12, 11, 15, 5, 3), all + "r15"), 15);
         check.due("the newest of such a hand", focusOf(Laid.hand(12, 11, 15, 5, 3), "s11 r01 s10 r01 s11"), 12);
     }
 

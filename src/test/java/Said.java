@@ -4,6 +4,7 @@ import java.nio.file.Path;
 import java.util.LinkedHashMap;
 import java.util.Map;
 import java.util.function.BiFunction;
+import java.util.function.Function;
 import java.util.function.Supplier;
 
 /**
@@ -100,6 +101,53 @@ final class Said {
                 check.refused(refusal, made, String.valueOf(number), x -> call.apply(x, number));
             }
         });
+    }
+
+    /** Tests that a call is refused ahead of the start of a game, and behind its end. */
+    void turnsOnly(String words, Function<Hintworks, Object> call) {
+        test(words, () -> {
+            check.refused(Check.STATE, Hintworks::new, "not started", call);
+            check.refused(Check.STATE, () -> Games.laid(4, 5), "not started, of four", call);
+            check.refused(Check.STATE, Games::overByStrikes, "over by the third strike", call);
+            check.refused(Check.STATE, Games::overAsWhole, "over as all suits are whole", call);
+            check.refused(Check.STATE, Games::overByCards, "over as each has had a turn", call);
+        });
+    }
+
+    /** Tests that a call is refused ahead of the start of a game, and answers from then on, behind its end too. */
+    void startedOnly(String words, Function<Hintworks, Object> call) {
+        test(words, () -> {
+            check.refused(Check.STATE, Hintworks::new, "not started", call);
+            check.refused(Check.STATE, () -> Games.laid(4, 5), "not started, of four", call);
+            check.refused(Check.STATE, Games::laidAgain, "not started, behind a game", call);
+            check.taken(Games::two, "started", call);
+            for (Supplier<Hintworks> over : Games.allOver()) {
+                check.taken(over, "over", call);
+            }
+        });
+    }
+
+    /** Tests that a call's player has to be one of those who play. */
+    void playersOnly(String words, BiFunction<Hintworks, Integer, Object> call) {
+        test(words, () -> {
+            for (int players = 2; players <= 4; players++) {
+                int number = players;
+                Supplier<Hintworks> made = () -> Games.started(number, 2);
+                check.taken(made, "the first of " + players, x -> call.apply(x, 0));
+                check.taken(made, "the last of " + players, x -> call.apply(x, number - 1));
+                check.refused(Check.RANGE, made, "one more than " + players, x -> call.apply(x, number));
+                check.refused(Check.RANGE, made, "one below", x -> call.apply(x, -1));
+                check.refused(Check.RANGE, made, "far above", x -> call.apply(x, Integer.MAX_VALUE));
+                check.refused(Check.RANGE, made, "far below", x -> call.apply(x, Integer.MIN_VALUE));
+            }
+        });
+    }
+
+    /** Tests that a call's place has to be one of those that hold a card. */
+    void placesOnly(String words, BiFunction<Hintworks, Integer, Object> call) {
+        numbers(words, Games::two, 0, 4, Check.RANGE, call);
+        numbers(words, () -> Games.started(4, 2), 0, 3, Check.RANGE, call);
+        numbers(words, () -> Laid.acted(Games.started(2, 1), "p0"), 0, 3, Check.RANGE, call);
     }
 
     void end() {
