@@ -156,6 +156,8 @@ public final class EdgesOfHintsTest {
         check.due("no card that was not touched", connects("r13 r05 r14 r05 r15 r05 r12", 3, 4, 5, 4, 2), NOBODY);
         int[][] hands = Laid.hands(GIVER, Laid.hand(11, 12, 3, 4, 2));
         check.due("as a prompt fails", connects("nn", hands, "r11 d1 r12", 1), 1);
+        int[][] first = Laid.hands(Laid.hand(2, 13, 14, 12, 1), Laid.hand(11, 4, 13, 14, 3));
+        check.due("the first card of the deck", connects("nn", first, "r14 s01 r14 r02"), 1);
         int[][] none = Laid.hands(Laid.hand(15, 14, 14, 1, 13), Laid.hand(11, 12, 4, 3, 2));
         check.due("a card of nobody", connects("nn", none, "r13"), NOBODY);
     }

@@ -273,6 +273,7 @@ public final class EdgesOfKnowledgeTest {
     private void focusTouchedAgain() {
         check.due("all touched ahead", focusOf(Laid.hand(12, 11, 15, 5, 3), "s11 r01 s11"), 12);
         check.due("one of them", focusOf(Laid.hand(12, 11, 15, 5, 3), "s11 r01 r11"), 11);
+        check.due("the oldest card alone", focusOf(Laid.hand(12, 11, 15, 5, 3), "r13 r01 r13"), 3);
         String all = "s11 r01 s10 r01 ";
         check.due("a hand with no card that no hint touched", focusOf(Laid.hand(12, 11, 15, 5, 3), all + "r15"), 15);
         check.due("the newest of such a hand", focusOf(Laid.hand(12, 11, 15, 5, 3), "s11 r01 s10 r01 s11"), 12);
