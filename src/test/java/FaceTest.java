@@ -1,4 +1,5 @@
 import java.lang.reflect.Constructor;
+import java.lang.reflect.Field;
 import java.lang.reflect.Method;
 import java.lang.reflect.Modifier;
 import java.nio.file.Files;
@@ -27,6 +28,8 @@ public final class FaceTest {
         check.due("calls of the face", due.size(), 44);
         check.due("final", Modifier.isFinal(Hintworks.class.getModifiers()), true);
         members();
+        sizes(Hintworks.class);
+        Arrays.stream(Hintworks.class.getDeclaredClasses()).forEach(FaceTest::sizes);
         text();
         check.end();
     }
@@ -76,10 +79,25 @@ public final class FaceTest {
         check.due("at most twelve classes", Hintworks.class.getDeclaredClasses().length < 12, true);
     }
 
+    private static void sizes(Class<?> one) {
+        int fields = 0;
+        for (Field field : one.getDeclaredFields()) {
+            boolean isStatic = Modifier.isStatic(field.getModifiers());
+            fields += isStatic ? 0 : 1;
+            boolean isOpen = isStatic && !Modifier.isFinal(field.getModifiers());
+            check.due("a static field that can change: " + field.getName(), isOpen, false);
+        }
+        check.due("at most twenty fields in " + one.getName(), fields <= 20, true);
+        for (Method method : one.getDeclaredMethods()) {
+            check.due("parameters of " + method.getName(), method.getParameterCount() <= 7, true);
+        }
+    }
+
     private static void text() throws Exception {
         String text = Files.readString(Path.of("src/main/java/Hintworks.java"));
         List<String> ruledOut = List.of("catch", "finally", "synchronized", "assert ", "->", "::", "toString",
-                "hashCode", "System.out", "Random", "Thread", "package ");
+                "hashCode", "System.out", "Random", "Thread", "package ",
+                "static {", "record ", "Exact(");
         for (String word : ruledOut) {
             check.due("the text holds " + word, text.contains(word), false);
         }
